@@ -583,7 +583,6 @@ public final class WiringContainer {
 
         BeanTable(ClassTable classes) {
             this.classes = classes;
-            count = 0;
         }
 
         boolean isFull() {
@@ -796,11 +795,11 @@ public final class WiringContainer {
             return problems;
         }
 
-        /** Reckons the costs; nothing needs itself, so no chain of needs is longer than the beans. */
+        /**
+         * Reckons the costs. Each round sets right those one need further away; nothing needs
+         * itself, so that no chain of needs is longer than there are beans.
+         */
         void weigh() {
-            for (int bean = 0; bean < beans.size(); bean++) {
-                cost[bean] = 0;
-            }
             for (int round = 0; round < beans.size(); round++) {
                 for (int bean = 0; bean < beans.size(); bean++) {
                     cost[bean] = beans.isEnabled(bean) ? costOverNeeds(bean) : 0;
@@ -900,12 +899,6 @@ public final class WiringContainer {
         private final boolean[] alive = new boolean[MOST_INSTANCES + 1];
         private final int[][] part = new int[MOST_POINTS][MOST_INSTANCES + 1];
         private final int[] order = new int[MOST_INSTANCES];
-
-        InstanceTable() {
-            made = 0;
-            living = 0;
-            gone = 0;
-        }
 
         int numbersLeft() {
             return MOST_INSTANCES - made;
