@@ -906,23 +906,29 @@ public final class ModelTests {
         }
     }
 
+    /** What was destroyed, in which order, tells of every making and destroying before. */
+    private void lookBack() {
+        int first = random.nextInt(200);
+        for (int i = 0; i < 200 && calls + 3 <= CALLS && !wrong; i++) {
+            int k = (first + i) % 200;
+            if (k <= model.instances.size()) {
+                same("destroyed(" + k + ")", real.destroyed(k), () -> model.destroyed(k));
+                same("owner(" + k + ")", real.owner(k), () -> model.owner(k));
+                same("beanOf(" + k + ")", real.beanOf(k), () -> model.beanOf(k));
+            }
+        }
+    }
+
     private boolean play() {
         wantedClasses = 2 + random.nextInt(13);
         wantedBeans = 1 + random.nextInt(17);
         wantedPoints = random.nextInt(2 * wantedBeans);
-        while (calls < CALLS && failures < 15 && !wrong) {
+        // Some calls are kept for looking back; beyond the last one nothing is promised.
+        int kept = random.nextInt(200);
+        while (calls < CALLS - kept && failures < 15 && !wrong) {
             step();
         }
-        // What was destroyed, in which order, tells of every making and destroying before.
-        for (int k = 0; k < model.log.size() && !wrong; k++) {
-            int at = k;
-            same("destroyed(" + k + ")", real.destroyed(k), () -> model.destroyed(at));
-        }
-        for (int n = 1; n <= model.instances.size() && !wrong; n++) {
-            int number = n;
-            same("owner(" + n + ")", real.owner(n), () -> model.owner(number));
-            same("beanOf(" + n + ")", real.beanOf(n), () -> model.beanOf(number));
-        }
+        lookBack();
         return !wrong;
     }
 
