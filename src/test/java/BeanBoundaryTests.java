@@ -7,6 +7,7 @@ public final class BeanBoundaryTests extends Checks {
         marksOfBeans();
         requiredMarks();
         marksAreCompared();
+        digitsOfMarks();
         marksOfSeveralKinds();
         defaultMark();
         requiredNothing();
@@ -23,6 +24,7 @@ public final class BeanBoundaryTests extends Checks {
         injectionPoints();
         injectionPointsOfAll();
         injectionPointsAreKept();
+        candidatesInEveryRespect();
         candidatesBeforeNarrowing();
         noCandidates();
         narrowing();
@@ -106,6 +108,34 @@ public final class BeanBoundaryTests extends Checks {
                 due(x.candidates(ROOT, other), 1);
             }
             weight *= 8;
+        }
+    }
+
+    private static void digitsOfMarks() {
+        sentence("The digit 0 says that a mark of that kind is not there; 1 .. 7 that it is there, with that value.");
+        for (int kind = 0; kind < 5; kind++) {
+            int weight = 1 << (3 * kind);
+            int most = kind == 1 ? 1 : 7;
+            Counted x = new Counted();
+            x.manage(ROOT, kind == 2 ? 512 : 64, 0, 0);
+            for (int value = 1; value <= most; value++) {
+                due(x.manage(ROOT, value * weight, 0, 0), value);
+            }
+            for (int value = 1; value <= most; value++) {
+                sentence(kind == 4 ? "kind 4 is LOOSE: its value is never compared"
+                        : "1 .. 7 that it is there, with that value");
+                due(x.resolve(ROOT, value * weight), kind == 4 ? AMBIGUOUS : value);
+                due(x.candidates(ROOT, value * weight), kind == 4 ? 7 : 1);
+            }
+        }
+        sentence("kind 1 is DEFAULT, whose digit is 0 or 1");
+        for (int value = 0; value <= 7; value++) {
+            Counted y = new Counted();
+            int want = value > 1 ? BAD : 0;
+            due(y.manage(ROOT, value * 8, 0, 0), want);
+            due(y.manage(ROOT, 7 + 64 + value * 8, 0, 0), value > 1 ? BAD : 1);
+            due(y.candidates(ROOT, 64 + value * 8), value > 1 ? BAD : 1);
+            due(y.candidates(ROOT, value * 8), value > 1 ? BAD : 1 + value);
         }
     }
 
@@ -503,6 +533,28 @@ public final class BeanBoundaryTests extends Checks {
     }
 
     // Terms: RESOLVING, and promises 8 and 9
+
+    private static void candidatesInEveryRespect() {
+        sentence("The CANDIDATES are the enabled beans that have a supertype of their type by which the required type "
+                + "is met, and that carry the marks.");
+        Counted x = new Counted();
+        plain(x);
+        x.declare(2, 0, false, false);
+        x.manage(2, 64, 0, 0);
+        x.manage(2, 64, 0, -1);
+        x.produce(1, 2, 64, 0, 3);
+        x.manage(ROOT, 64, 0, 0);
+        x.manage(2, 128, 0, 0);
+        due(x.candidates(2, 64), 1);
+        due(x.resolve(2, 64), 0);
+        due(x.candidates(3, 64), 0);
+        due(x.candidates(ROOT, 64), 2);
+        due(x.candidates(2, -1), 2);
+        x.manage(3, 64, 0, 0);
+        due(x.candidates(2, 64), 2);
+        due(x.candidates(3, 64), 1);
+        due(x.resolve(3, 64), 5);
+    }
 
     private static void candidatesBeforeNarrowing() {
         sentence("How many candidates there are for a required code and required marks (before narrowing).");

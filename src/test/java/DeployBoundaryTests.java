@@ -20,6 +20,7 @@ public final class DeployBoundaryTests extends Checks {
         namesAreNarrowed();
         problemsAreSummed();
         problemsCountOnce();
+        problemsOfTheLastBean();
         buildingGoesOn();
         closedWhileRunning();
         costsOfNeeds();
@@ -447,6 +448,30 @@ public final class DeployBoundaryTests extends Checks {
             x.manage(ROOT, 2048 + ((problem & 32) != 0 ? 4 : 5), DEPENDENT, 0);
             x.manage(ROOT, 2560 + ((problem & 32) != 0 ? 4 : 6), DEPENDENT, 0);
             due(x.deploy(), problem);
+            due(x.deploy(), problem);
+        }
+    }
+
+    private static void problemsOfTheLastBean() {
+        sentence("the sum of the numbers of those problems that are present (each once)");
+        for (int problem = 0; problem < 64; problem = problem == 0 ? 1 : problem * 2) {
+            Counted x = new Counted();
+            generic(x);
+            for (int number = 3; number <= 13; number++) {
+                x.declare(0, 0, false, number == 13);
+            }
+            for (int bean = 0; bean < 13; bean++) {
+                x.manage(3, mark(bean) + (bean == 0 ? 7 : 0), DEPENDENT, 0);
+            }
+            due(x.manage(13, mark(13), APPLICATION, 0), 13);
+            due(x.manage(3, mark(problem == 4 ? 15 : 14), DEPENDENT, 0), 14);
+            int type = problem == 1 ? code(2, VARIABLE) : 3;
+            int name = problem == 32 ? 7 : 6;
+            due(x.produce(-1, type, mark(15) + name, problem == 1 ? REQUEST : DEPENDENT, 0), 15);
+            due(x.inject(15, ROOT, mark(12)), 0);
+            due(x.inject(15, ROOT, mark(12)), 1);
+            int wanted = problem == 2 ? 20 : problem == 4 || problem == 16 ? 15 : 13;
+            due(x.inject(15, problem == 8 ? 13 : ROOT, mark(wanted)), 2);
             due(x.deploy(), problem);
         }
     }

@@ -5,6 +5,7 @@
 public final class InstanceBoundaryTests extends Checks {
     public static void main(String[] args) {
         lastCallOfAll();
+        countedFromZero();
         twoHundredNumbers();
         numbersOverTheWholeLife();
         makingInOrder();
@@ -14,6 +15,7 @@ public final class InstanceBoundaryTests extends Checks {
         costOfTen();
         costOfTenOverHomes();
         numbersThatAreLeft();
+        numbersThatAreLeftForHomes();
         numbersThatAreLeftInContexts();
         destroyingInOrder();
         destroyingDeep();
@@ -61,6 +63,23 @@ public final class InstanceBoundaryTests extends Checks {
         due(x.destroyed(149), 150);
         due(x.shutdown(), 50);
         due(x.destroyed(199), 151);
+    }
+
+    private static void countedFromZero() {
+        sentence("All numbers are counted from 0 where nothing else is said.");
+        Counted x = new Counted();
+        due(x.manage(ROOT, 64, DEPENDENT, 0), 0);
+        due(x.produce(0, ROOT, 128, REQUEST, 0), 1);
+        due(x.inject(1, ROOT, 64), 0);
+        due(x.resolve(ROOT, 64), 0);
+        due(x.deploy(), 0);
+        due(x.cost(0), 1);
+        due(x.begin(0), true);
+        due(x.obtain(0, ROOT, 128), 2);
+        due(x.call(0, 2, 0), 3);
+        due(x.beanOf(3), 0);
+        due(x.destroyed(0), 1);
+        due(x.destroyed(1), 0);
     }
 
     // Terms: INSTANCES
@@ -190,6 +209,7 @@ public final class InstanceBoundaryTests extends Checks {
         // 1: the home, with 2 (home) 3, 4 (home) 5; 6: the product, with 7 (home) 8
         due(x.obtain(0, ROOT, 256), 6);
         order(x, 2, 4, 7, 1, 5, 3);
+        due(x.call(0, 6, 0), 8);
         due(x.owner(8), 6);
         due(x.beanOf(8), 1);
         due(x.live(), 2);
@@ -310,6 +330,27 @@ public final class InstanceBoundaryTests extends Checks {
                 // What was refused took no number: those that are left can be used still.
                 due(x.obtain(0, ROOT, mark(0)), left == cost || left == 0 ? FULL : used + 1);
                 due(x.beanOf(200), left == cost || left <= 1 ? 0 : GONE);
+            }
+        }
+    }
+
+    private static void numbersThatAreLeftForHomes() {
+        sentence("or as many numbers as the cost are not left");
+        for (int scope = 0; scope <= 2; scope++) {
+            for (int left = 0; left <= 4; left++) {
+                Counted x = new Counted();
+                x.manage(ROOT, mark(0), DEPENDENT, 0);
+                x.produce(0, ROOT, mark(1), scope, 0);
+                x.inject(1, ROOT, mark(0));
+                due(x.deploy(), 0);
+                due(x.cost(1), 3);
+                x.begin(0);
+                useNumbersFrom(x, 0, 200 - left);
+                // The home takes the first number, and does not give it back.
+                due(x.obtain(0, ROOT, mark(1)), left < 3 ? FULL : 202 - left);
+                due(x.live(), left < 3 ? 200 - left : 202 - left);
+                due(x.destroyed(0), left < 3 ? 0 : 201 - left);
+                due(x.obtain(0, ROOT, mark(0)), left == 0 || left == 3 ? FULL : left == 4 ? 200 : 201 - left);
             }
         }
     }
@@ -468,6 +509,16 @@ public final class InstanceBoundaryTests extends Checks {
             due(x.obtain(thread, ROOT, 128), 4);
             due(x.begin(thread), true);
             due(x.end(thread), 0);
+        }
+        sentence("each has a REQUEST context that is active between begin and end");
+        Counted y = withOne(REQUEST);
+        for (int round = 1; round <= 60; round++) {
+            int thread = round % 3;
+            due(y.obtain(thread, ROOT, 0), INACTIVE);
+            due(y.begin(thread), true);
+            due(y.obtain(thread, ROOT, 0), round);
+            due(y.end(thread), 1);
+            due(y.obtain(thread, ROOT, 0), INACTIVE);
         }
     }
 
@@ -791,35 +842,57 @@ public final class InstanceBoundaryTests extends Checks {
 
     private static void destroyingHeldOnes() {
         sentence("the context that holds it, if one does, holds none for its bean then");
+        // The context of thread 0, 1 or 2, or that of the application; and the first or second bean in it.
+        for (int context = 0; context <= 3; context++) {
+            for (int bean = 0; bean <= 1; bean++) {
+                destroyingHeldOne(context, bean);
+            }
+        }
+        Counted x = withOne(APPLICATION);
+        for (int number = 1; number <= 100; number++) {
+            due(x.obtain(number % 3, ROOT, 0), number);
+            due(x.destroy(number), 1);
+        }
+        due(x.shutdown(), 0);
+    }
+
+    private static void destroyingHeldOne(int context, int bean) {
         Counted x = new Counted();
-        x.manage(ROOT, 64, REQUEST, 0);
-        x.manage(ROOT, 128, REQUEST, 0);
-        x.manage(ROOT, 192, APPLICATION, 0);
-        x.manage(ROOT, 256, APPLICATION, 0);
+        for (int i = 0; i < 4; i++) {
+            x.manage(ROOT, mark(i), i < 2 ? REQUEST : APPLICATION, 0);
+        }
         due(x.deploy(), 0);
         for (int thread = 0; thread <= 2; thread++) {
             x.begin(thread);
-            due(x.obtain(thread, ROOT, 64), 2 * thread + 1);
-            due(x.obtain(thread, ROOT, 128), 2 * thread + 2);
         }
-        due(x.obtain(0, ROOT, 192), 7);
-        due(x.obtain(0, ROOT, 256), 8);
-        due(x.destroy(3), 1);
-        due(x.destroy(7), 1);
-        // Each of the others is held still.
-        due(x.obtain(0, ROOT, 64), 1);
-        due(x.obtain(0, ROOT, 128), 2);
-        due(x.obtain(1, ROOT, 128), 4);
-        due(x.obtain(2, ROOT, 64), 5);
-        due(x.obtain(2, ROOT, 128), 6);
-        due(x.obtain(0, ROOT, 256), 8);
-        due(x.end(1), 1);
-        due(x.begin(1), true);
-        due(x.obtain(1, ROOT, 64), 9);
-        due(x.obtain(2, ROOT, 192), 10);
-        due(x.destroy(10), 1);
-        due(x.shutdown(), 6);
-        order(x, 3, 7, 4, 10, 2, 1, 9, 6, 5, 8);
+        for (int number = 1; number <= 8; number++) {
+            due(heldAs(x, number), number);
+        }
+        int destroyed = 2 * context + bean + 1;
+        due(x.destroy(destroyed), 1);
+        due(x.destroy(destroyed), GONE);
+        due(x.live(), 7);
+        for (int number = 1; number <= 8; number++) {
+            due(heldAs(x, number), number == destroyed ? 9 : number);
+        }
+        due(x.destroy(9), 1);
+        if (context < 3) {
+            due(x.end(context), 1);
+            due(x.shutdown(), 6);
+        } else {
+            due(x.shutdown(), 7);
+        }
+        due(x.destroyed(0), destroyed);
+        due(x.destroyed(1), 9);
+        due(x.destroyed(8) > 0, true);
+        due(x.destroyed(9), 0);
+    }
+
+    /** Obtains what is held as this number at first: two of each thread, then two of the application. */
+    private static int heldAs(Counted x, int number) {
+        int context = (number - 1) / 2;
+        int bean = (number - 1) % 2;
+        return context < 3 ? x.obtain(context, ROOT, mark(bean)) : x.obtain(0, ROOT, mark(2 + bean));
     }
 
     // Promise 17

@@ -9,9 +9,11 @@ public final class TypeBoundaryTests extends Checks {
         newObject();
         rootClass();
         classNumbers();
+        lastClasses();
         closedClasses();
         upToTwoParents();
         headsAndArguments();
+        argumentsOfEachForm();
         nextClassIsNoneYet();
         examples();
         parentCodes();
@@ -29,6 +31,7 @@ public final class TypeBoundaryTests extends Checks {
         mostSupertypes();
         longSupertypes();
         meeting();
+        meetingArguments();
         meetingDeep();
         fitsEveryBean();
         finish();
@@ -101,6 +104,24 @@ public final class TypeBoundaryTests extends Checks {
             due(x.produce(-1, code(13, 13), 0, 0, 0), generic ? 1 : BAD);
             sentence("The others are declared: 2, 3, .. in this order, at most up to 13.");
         }
+    }
+
+    private static void lastClasses() {
+        sentence("The others are declared: 2, 3, .. in this order, at most up to 13.");
+        Counted x = new Counted();
+        for (int number = 2; number <= 11; number++) {
+            due(plain(x), number);
+        }
+        due(generic(x), 12);
+        due(x.declare(code(12, 12, 11), code(12, VARIABLE), true, true), 13);
+        due(x.produce(-1, code(13, 13, 11), 0, 0, 0), 0);
+        due(x.types(0), 4);
+        due(x.fits(code(12, 12, 11), 0), 1);
+        due(x.fits(code(12, 13, 11), 0), 1);
+        due(x.fits(code(12, KIND_OF, 12, 11), 0), 1);
+        due(x.fits(code(12, KIND_OF, 13, ANYTHING), 0), 1);
+        due(x.fits(code(13, KIND_OF, 12, 12, 11), 0), 1);
+        due(x.fits(code(13, KIND_OF, 11), 0), 0);
     }
 
     private static void closedClasses() {
@@ -300,6 +321,63 @@ public final class TypeBoundaryTests extends Checks {
             due(withSorts().declare(code(2, digit), 0, true, false), declared || open || digit == 0 ? 5 : BAD);
             due(withSorts().declare(0, code(2, 4, digit), true, false), declared || open || digit == 0 ? 5 : BAD);
         }
+    }
+
+    private static void argumentsOfEachForm() {
+        sentence("Behind a class that is not generic no digit stands.");
+        for (int head : new int[] {ROOT, 3}) {
+            taken(code(head), true, true, head == 3);
+            for (int digit = 1; digit < 32; digit++) {
+                taken(code(head, digit), false, false, false);
+                taken(code(head, KIND_OF, digit), false, false, false);
+                taken(code(2, head, digit), false, false, false);
+            }
+        }
+        sentence("Behind a generic class either none stands: the type is RAW; or an ARGUMENT:");
+        taken(2, true, true, true);
+        taken(4, true, true, false);
+        taken(code(2, 4), true, true, true);
+        sentence("a type (its digits)");
+        taken(code(2, ROOT), true, true, true);
+        taken(code(2, 3), true, true, true);
+        taken(code(2, 2, 4), true, true, true);
+        taken(code(2, 3, 3), false, false, false);
+        sentence("or 30, ANYTHING, and no digit behind it");
+        taken(code(2, ANYTHING), true, false, false);
+        taken(code(2, 2, ANYTHING), true, false, false);
+        for (int digit = 1; digit < 32; digit++) {
+            taken(code(2, ANYTHING, digit), false, false, false);
+        }
+        sentence("or 29, KIND OF, and behind it the digits of a type");
+        taken(code(2, KIND_OF), false, false, false);
+        taken(code(2, KIND_OF, ROOT), true, false, false);
+        taken(code(2, KIND_OF, 3), true, false, false);
+        taken(code(2, KIND_OF, 2), true, false, false);
+        taken(code(2, KIND_OF, 4, ANYTHING), true, false, false);
+        taken(code(2, KIND_OF, 4, KIND_OF, 3), true, false, false);
+        taken(code(2, KIND_OF, 5), false, false, false);
+        taken(code(2, KIND_OF, 3, 3), false, false, false);
+        taken(code(2, KIND_OF, KIND_OF, 3), false, false, false);
+        taken(code(2, KIND_OF, ANYTHING), false, false, false);
+        taken(code(2, KIND_OF, VARIABLE), false, false, false);
+        taken(code(2, KIND_OF, 2, VARIABLE), false, false, false);
+        sentence("or 31, the VARIABLE, and no digit behind it");
+        taken(code(2, VARIABLE), false, true, true);
+        taken(code(2, 4, VARIABLE), false, true, true);
+        for (int digit = 1; digit < 32; digit++) {
+            taken(code(2, VARIABLE, digit), false, false, false);
+        }
+        taken(VARIABLE, false, false, false);
+        taken(ANYTHING, false, false, false);
+        taken(code(KIND_OF, 3), false, false, false);
+    }
+
+    /** Whether a number is a required code, a product code, and a parent code of a generic class. */
+    private static void taken(int code, boolean required, boolean product, boolean parent) {
+        Counted x = withSorts();
+        due(x.candidates(code, -1), required ? 0 : BAD);
+        due(x.produce(-1, code, 0, 0, 0), product ? 0 : BAD);
+        due(x.declare(code, 0, true, false), parent ? 5 : BAD);
     }
 
     private static void nextClassIsNoneYet() {
@@ -707,6 +785,46 @@ public final class TypeBoundaryTests extends Checks {
         Counted x = withMeetings();
         String[] want = beans.split(" +");
         for (int bean = 0; bean < 16; bean++) {
+            due(x.fits(code(required), bean), Integer.parseInt(want[bean]));
+        }
+    }
+
+    private static void meetingArguments() {
+        sentence("r is KIND OF u and u is met by some supertype of b");
+        // The beans' types are 2<5>, 2<5<V>>, 2<6>, 2<6<4>>, 2<6<V>>, with 5 over 2<V> and 6 over 2<3>.
+        meetsArguments("0 0 0 0 0", 2, 2);
+        meetsArguments("1 1 0 0 0", 2, 5);
+        meetsArguments("1 1 0 0 0", 2, 5, ROOT);
+        meetsArguments("0 1 0 0 0", 2, 5, 3);
+        meetsArguments("0 0 1 0 1", 2, 6);
+        meetsArguments("1 1 1 0 0", 2, KIND_OF, 2);
+        meetsArguments("1 1 1 0 0", 2, KIND_OF, 2, ROOT);
+        meetsArguments("0 1 0 1 1", 2, KIND_OF, 2, ANYTHING);
+        meetsArguments("0 1 0 1 1", 2, KIND_OF, 2, 3);
+        meetsArguments("0 1 0 0 0", 2, KIND_OF, 2, 4);
+        meetsArguments("0 1 0 1 1", 2, KIND_OF, 2, KIND_OF, 3);
+        meetsArguments("0 1 0 0 0", 2, KIND_OF, 2, KIND_OF, 4);
+        meetsArguments("1 1 0 0 0", 2, KIND_OF, 5);
+        meetsArguments("0 1 0 0 0", 2, KIND_OF, 5, ANYTHING);
+        meetsArguments("0 0 0 1 1", 2, KIND_OF, 6, 4);
+        meetsArguments("0 0 0 1 1", 2, 6, KIND_OF, 3);
+        meetsArguments("0 0 0 0 1", 2, KIND_OF, 6, 3);
+        meetsArguments("1 1 1 1 1", 2, KIND_OF, ROOT);
+        meetsArguments("0 0 0 0 0", 2, ROOT);
+        meetsArguments("0 0 0 0 0", 2);
+    }
+
+    private static void meetsArguments(String beans, int... required) {
+        Counted x = new Counted();
+        generic(x);
+        plain(x);
+        x.declare(3, 0, false, false);
+        x.declare(code(2, VARIABLE), 0, true, false);
+        x.declare(code(2, 3), 0, true, false);
+        int[] types = {code(2, 5), code(2, 5, VARIABLE), code(2, 6), code(2, 6, 4), code(2, 6, VARIABLE)};
+        String[] want = beans.split(" ");
+        for (int bean = 0; bean < types.length; bean++) {
+            due(x.produce(-1, types[bean], 0, 0, 0), bean);
             due(x.fits(code(required), bean), Integer.parseInt(want[bean]));
         }
     }

@@ -1,6 +1,7 @@
 import java.util.ArrayList;
 import java.util.List;
 import java.util.function.Consumer;
+import java.util.function.Function;
 import java.util.function.ToIntFunction;
 
 /**
@@ -56,6 +57,12 @@ public final class UnchangedTests extends Checks {
     }
 
     private static void compare(String name, Consumer<Counted> state, List<ToIntFunction<Counted>> quiet) {
+        compare(name, state, quiet, UnchangedTests::afterwards);
+        compare(name, state, quiet, UnchangedTests::afterDeploying);
+    }
+
+    private static void compare(String name, Consumer<Counted> state, List<ToIntFunction<Counted>> quiet,
+            Function<Counted, List<String>> later) {
         Counted asked = inState(state);
         Counted twin = inState(state);
         StringBuilder calls = new StringBuilder();
@@ -64,8 +71,8 @@ public final class UnchangedTests extends Checks {
             due(name + ", " + Counted.lastCall() + " after others", call.applyAsInt(asked), alone);
             calls.append("\n  ").append(Counted.lastCall());
         }
-        List<String> got = afterwards(asked);
-        List<String> want = afterwards(twin);
+        List<String> got = later.apply(asked);
+        List<String> want = later.apply(twin);
         for (int i = 0; i < want.size(); i++) {
             boolean same = got.get(i).equals(want.get(i));
             due(same ? "" : name + ": " + got.get(i) + ", but " + want.get(i) + " without one of" + calls, same ? 1 : 0, 1);
@@ -78,12 +85,36 @@ public final class UnchangedTests extends Checks {
         told.add(Counted.lastCall() + " = " + answer);
     }
 
+    /** Deploys at once: a refused call of its own before that could hide what the others changed. */
+    private static List<String> afterDeploying(Counted x) {
+        List<String> told = new ArrayList<>();
+        note(told, x.deploy());
+        for (int thread = 0; thread <= 2; thread++) {
+            note(told, x.end(thread));
+        }
+        follow(told, x);
+        note(told, x.live());
+        note(told, x.shutdown());
+        build(told, x);
+        note(told, x.deploy());
+        follow(told, x);
+        note(told, x.shutdown());
+        for (int k = 0; k < 40; k++) {
+            note(told, x.destroyed(k));
+        }
+        return told;
+    }
+
     private static List<String> afterwards(Counted x) {
         List<String> told = new ArrayList<>();
         look(told, x);
         run(told, x);
         note(told, x.shutdown());
         note(told, x.deploy());
+        for (int thread = 0; thread <= 2; thread++) {
+            note(told, x.end(thread));
+        }
+        follow(told, x);
         note(told, x.shutdown());
         build(told, x);
         note(told, x.deploy());
@@ -114,7 +145,7 @@ public final class UnchangedTests extends Checks {
         }
         note(told, x.candidates(3, -1));
         note(told, x.candidates(code(2, KIND_OF, 3), -1));
-        note(told, x.candidates(6, -1));
+        note(told, x.candidates(8, -1));
         note(told, x.candidates(14, -1));
         note(told, x.destroyed(0));
         note(told, x.destroyed(5));
@@ -144,6 +175,18 @@ public final class UnchangedTests extends Checks {
         note(told, x.live());
     }
 
+    /** Every injection point of those beans that have some. */
+    private static void follow(List<String> told, Counted x) {
+        note(told, x.begin(1) ? 1 : 0);
+        for (int bean : new int[] {0, 3, 4, 6, 8, 10, 15}) {
+            int made = x.obtain(1, ROOT, mark(bean));
+            note(told, made);
+            for (int point = 0; point < 3; point++) {
+                note(told, x.call(1, made, point));
+            }
+        }
+    }
+
     private static void build(List<String> told, Counted x) {
         note(told, x.declare(3, code(5, 3), false, false));
         note(told, x.declare(code(2, VARIABLE), 0, true, true));
@@ -152,8 +195,8 @@ public final class UnchangedTests extends Checks {
         for (int bean = 0; bean < 16; bean++) {
             note(told, x.inject(bean, ROOT, mark(2)));
         }
-        note(told, x.candidates(7, -1));
-        note(told, x.candidates(8, -1));
+        note(told, x.candidates(9, -1));
+        note(told, x.candidates(10, -1));
     }
 
     // The states
@@ -170,6 +213,14 @@ public final class UnchangedTests extends Checks {
             base(x);
             x.inject(10, 3, mark(15));
             x.deploy();
+        });
+        state("thirteen classes", x -> {
+            base(x);
+            fillClasses(x);
+        });
+        state("sixteen beans", x -> {
+            base(x);
+            fillBeans(x);
         });
         state("full", UnchangedTests::fill);
         state("running", x -> {
@@ -197,12 +248,17 @@ public final class UnchangedTests extends Checks {
         });
     }
 
-    /** Eleven beans: of each scope, a product with its home, one not enabled, two too dear to make. */
+    /**
+     * The classes up to 7, of which that one has level 3; eleven beans: of each scope, a product
+     * with its home, one not enabled, two too dear to make.
+     */
     private static void base(Counted x) {
         generic(x);
         plain(x);
         x.declare(3, 0, false, true);
         x.declare(code(2, VARIABLE), 0, true, false);
+        x.declare(code(5, VARIABLE), 0, true, false);
+        x.declare(0, code(6, 3), false, false);
         x.manage(3, mark(0), DEPENDENT, 0);
         x.manage(3, mark(1), REQUEST, 0);
         x.manage(4, mark(2), APPLICATION, 0);
@@ -222,14 +278,22 @@ public final class UnchangedTests extends Checks {
         }
     }
 
-    private static void fill(Counted x) {
-        base(x);
-        for (int number = 6; number <= 13; number++) {
+    private static void fillClasses(Counted x) {
+        for (int number = 8; number <= 13; number++) {
             x.declare(3, 0, false, number % 2 == 0);
         }
+    }
+
+    private static void fillBeans(Counted x) {
         for (int bean = 11; bean < 16; bean++) {
             x.manage(3, mark(bean), bean % 3, 0);
         }
+    }
+
+    private static void fill(Counted x) {
+        base(x);
+        fillClasses(x);
+        fillBeans(x);
         for (int bean = 0; bean < 16; bean++) {
             for (int point = 0; point < 3; point++) {
                 x.inject(bean, ROOT, mark(2));
@@ -267,15 +331,16 @@ public final class UnchangedTests extends Checks {
     // The calls: those of them that are refused in a state are made there
 
     private void listBuildingCalls() {
-        for (int first : new int[] {0, 3, 4, 1, -1, 6, code(2, VARIABLE), code(2, KIND_OF, 3), code(2, 2, 2, 3)}) {
+        for (int first : new int[] {0, 3, 4, 1, 7, -1, 8, code(2, VARIABLE), code(2, KIND_OF, 3), code(2, 2, 2, 3)}) {
             for (int second : new int[] {0, 2, 4, -5}) {
                 changing.add(x -> x.declare(first, second, true, false));
                 changing.add(x -> x.declare(second, first, false, true));
             }
         }
         changing.add(x -> x.declare(code(5, 3), code(2, VARIABLE), false, false));
-        for (int which : new int[] {1, 3, 0, 6, -1}) {
-            for (int[] t : new int[][] {{0, 0, 0}, {-1, 1, 0}, {16, 2, 9}, {64, 3, 0}, {64, -1, 1}, {8, 0, -2}, {8, 0, 101}}) {
+        int[][] traits = {{0, 0, 0}, {-1, 1, 0}, {16, 2, 9}, {64, 3, 0}, {64, -1, 1}, {8, 0, -2}, {8, 0, 101}};
+        for (int which : new int[] {1, 3, 0, 8, -1}) {
+            for (int[] t : traits) {
                 changing.add(x -> x.manage(which, t[0], t[1], t[2]));
                 changing.add(x -> x.produce(-1, which, t[0], t[1], t[2]));
                 changing.add(x -> x.produce(0, which == 3 ? code(2, 30) : 3, t[0], t[1], t[2]));
@@ -283,7 +348,7 @@ public final class UnchangedTests extends Checks {
             }
         }
         for (int bean : new int[] {0, 3, 7, 15, 16, -1}) {
-            for (int type : new int[] {1, 3, 0, 6, code(2, VARIABLE)}) {
+            for (int type : new int[] {1, 3, 0, 8, code(2, VARIABLE)}) {
                 for (int marks : new int[] {-1, mark(1), 16, -2}) {
                     changing.add(x -> x.inject(bean, type, marks));
                 }
