@@ -20,6 +20,7 @@ public final class BeanBoundaryTests extends Checks {
         homesOfAnySort();
         enabledBeans();
         ranks();
+        plainAndNotSelected();
         ranksOverTheirRange();
         injectionPoints();
         injectionPointsOfAll();
@@ -313,8 +314,8 @@ public final class BeanBoundaryTests extends Checks {
     }
 
     private static void sixteenBeans() {
-        sentence("FULL when there are 16 beans");
         for (int way = 0; way < 3; way++) {
+            sentence("BEANS are numbered 0, 1, .. 15.");
             Counted x = new Counted();
             for (int bean = 0; bean < 16; bean++) {
                 boolean product = way == 1 || way == 2 && bean % 2 == 1;
@@ -322,6 +323,7 @@ public final class BeanBoundaryTests extends Checks {
                 due(product ? x.produce(-1, ROOT, mark(bean), 0, 0) : x.manage(ROOT, mark(bean), 0, 0), bean);
                 due(x.types(bean), 1);
             }
+            sentence("FULL when there are 16 beans");
             due(x.manage(ROOT, 0, 0, 0), FULL);
             due(x.produce(-1, ROOT, 0, 0, 0), FULL);
             due(x.manage(ROOT, 0, 0, 0), FULL);
@@ -436,6 +438,20 @@ public final class BeanBoundaryTests extends Checks {
             due(x.resolve(ROOT, 128), want);
             due(x.candidates(ROOT, 128), 2);
         }
+    }
+
+    private static void plainAndNotSelected() {
+        sentence("The choice is 0: plain; -1: an alternative that was not selected");
+        Counted x = new Counted();
+        x.manage(ROOT, 0, 0, -1);
+        due(x.resolve(ROOT, 0), UNSATISFIED);
+        x.manage(ROOT, 0, 0, 0);
+        due(x.resolve(ROOT, 0), 1);
+        x.manage(ROOT, 0, 0, 0);
+        due(x.resolve(ROOT, 0), AMBIGUOUS);
+        x.manage(ROOT, 0, 0, 1);
+        due(x.resolve(ROOT, 0), 3);
+        due(x.candidates(ROOT, 0), 3);
     }
 
     private static void ranksOverTheirRange() {

@@ -4,6 +4,7 @@
  */
 public final class RefusalTests extends Checks {
     public static void main(String[] args) {
+        oneAfterTheOther();
         declaring();
         managing();
         producing();
@@ -22,6 +23,34 @@ public final class RefusalTests extends Checks {
     }
 
     private static final boolean[] BOTH = {false, true};
+
+    /** One chain of refusals, taken away one by one in the order in which they are said. */
+    private static void oneAfterTheOther() {
+        sentence("Where several refusals would hold, the one that is said first counts.");
+        Counted x = new Counted();
+        plain(x);
+        x.declare(2, 0, false, true);
+        x.manage(3, mark(0), REQUEST, 0);
+        x.manage(2, mark(1), DEPENDENT, 0);
+        for (int point = 0; point < 3; point++) {
+            x.inject(0, 2, mark(1));
+        }
+        due(x.obtain(3, 4, -2), CLOSED);
+        due(x.deploy(), 0);
+        for (int number = 1; number <= 197; number++) {
+            due(x.obtain(0, 2, mark(1)), number);
+        }
+        due(x.obtain(3, 4, -2), BAD);
+        due(x.obtain(0, 4, -2), BAD);
+        due(x.obtain(0, 3, -2), BAD);
+        due(x.obtain(0, 3, mark(20)), UNSATISFIED);
+        due(x.obtain(0, 2, -1), AMBIGUOUS);
+        due(x.obtain(0, 3, mark(0)), UNPROXYABLE);
+        due(x.obtain(0, 2, mark(0)), INACTIVE);
+        due(x.begin(0), true);
+        due(x.obtain(0, 2, mark(0)), FULL);
+        due(x.live(), 197);
+    }
 
     // Promise 2: CLOSED, FULL, BAD
 
@@ -313,7 +342,8 @@ public final class RefusalTests extends Checks {
         for (int thread : new int[] {-1, 0, 1, 2, 3}) {
             for (int type : new int[] {0, 1, 2, 3, 4, 34}) {
                 for (int marks : new int[] {-2, 16, 32768, mark(20), mark(8)}) {
-                    obtainedByMarks(thread, type, marks);
+                    obtainedByMarks(thread, type, marks, 200);
+                    obtainedByMarks(thread, type, marks, 0);
                 }
                 for (int bean = 0; bean < 8; bean++) {
                     obtained(thread, type, bean, 200);
@@ -329,15 +359,18 @@ public final class RefusalTests extends Checks {
         return type < 1 || type > 3;
     }
 
-    private static void obtainedByMarks(int thread, int type, int marks) {
+    private static void obtainedByMarks(int thread, int type, int marks, int left) {
         Counted x = withRefusals();
         due(x.obtain(thread, type, marks), CLOSED);
         x.deploy();
         x.begin(0);
+        leave(x, left, 0);
         boolean bad = thread < 0 || thread > 2 || isBadType(type) || marks == -2 || marks == 16 || marks == 32768;
         // Of the class 3 only one of the two has these marks, and that one is normal.
         int found = marks == mark(20) ? UNSATISFIED : type == 3 ? UNPROXYABLE : AMBIGUOUS;
         due(x.obtain(thread, type, marks), bad ? BAD : found);
+        x.shutdown();
+        due(x.obtain(thread, type, marks), CLOSED);
     }
 
     private static void obtained(int thread, int type, int bean, int left) {
@@ -360,6 +393,8 @@ public final class RefusalTests extends Checks {
             want = FULL;
         }
         due(x.obtain(thread, type, mark(bean)), want);
+        x.shutdown();
+        due(x.obtain(thread, type, mark(bean)), CLOSED);
     }
 
     // Promise 15: CLOSED, BAD, GONE, BAD, INACTIVE, FULL
@@ -402,6 +437,8 @@ public final class RefusalTests extends Checks {
             want = FULL;
         }
         due(x.call(thread, instance, point), want);
+        x.shutdown();
+        due(x.call(thread, instance, point), CLOSED);
     }
 
     // Promise 16: CLOSED, GONE, BAD
